@@ -15,6 +15,7 @@ public final class PromiseTest {
         type();
         query();
         queryFaultsOfForm();
+        queryBehindLongerText();
         queryOtherFaults();
         plan();
         fault();
@@ -233,6 +234,8 @@ public final class PromiseTest {
         faulty("foo 1;", 1, 0);
         faulty("  foo 1;", 1, 2);
         faulty("relations 1;", 1, 0);
+        faulty("relationz 1;", 1, 0);
+        faulty("relationa 1;", 1, 0);
         faulty("relatio 1;", 1, 0);
         faulty("by 1;", 1, 0);
         faulty(";", 1, 0);
@@ -262,6 +265,25 @@ public final class PromiseTest {
         faulty("limit 5 limit 6;", 1, 8);
         faulty("relation 0;foo", 1, 11);
         faulty("edge 5 - 5 by 0;relation", 1, 24);
+    }
+
+    /** Of a text that is gone nothing may be read any more. */
+    private static void queryBehindLongerText() {
+        promise = 3;
+        JoinOrders x = new JoinOrders();
+        queried(x, "relationrelation");
+        due("query() of relation", queried(x, "relation"), NONE);
+        due("fault(true) of relation", x.fault(true), 8);
+        queried(x, "relation 55555555555;;;;");
+        due("query() of relation 5", queried(x, "relation 5"), NONE);
+        due("fault(true) of relation 5", x.fault(true), 10);
+        queried(x, "a".repeat(500));
+        due("fault(true) of 500 letters", x.fault(true), 0);
+        queried(x, "relation" + " ".repeat(485) + "1234567");
+        due("fault(true) of 500 bytes that end with a number", x.fault(true), 500);
+        queried(x, " ".repeat(492) + "relation");
+        due("fault(true) of 500 bytes that end with a word", x.fault(true), 500);
+        due("query() of 500 blanks", queried(x, " ".repeat(500)), 0);
     }
 
     private static void queryOtherFaults() {
@@ -1037,6 +1059,14 @@ public final class PromiseTest {
         due("query()", queried(x, "relation 5;"), 1);
         due("again(1) behind a query", x.again(1), true);
         due("count(0) behind a query", x.count(0), 4);
+        typed(x, "(0 1)");
+        due("plan() of abc(0 1)", x.plan(), NONE);
+        typed(x, "(2 3)");
+        x.image(2);
+        planned(x, "abcdefgh");
+        due("again(2)", x.again(2), true);
+        due("plan() of the text that was kept", x.plan(), 1);
+        due("told", toldBy(x), "(2 3)");
         x = new JoinOrders();
         x.image(0);
         x.add(5);
