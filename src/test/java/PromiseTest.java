@@ -1,12 +1,7 @@
 import java.util.NoSuchElementException;
 
 /** For each promise of the document: ordinary calls, the edges that it names, and wrong ones. */
-public final class PromiseTest {
-    private static final int NONE = JoinOrders.NONE;
-    private static final long CAP = 1000000000000000L;
-    private static int promise = 0;
-    private static int wrong = 0;
-
+public final class PromiseTest extends Testing {
     private PromiseTest() {
     }
 
@@ -48,101 +43,13 @@ public final class PromiseTest {
         image();
         again();
         allStrangeArguments();
-        System.out.println(wrong == 0 ? "all promises hold" : wrong + " answers are not as due");
-        if (wrong != 0) {
-            System.exit(1);
-        }
-    }
-
-    // ---- how the tests are told
-
-    private static void due(String what, long got, long want) {
-        if (got != want) {
-            wrong++;
-            System.out.println("promise " + promise + ": " + what + " answered " + got + ", due is " + want);
-        }
-    }
-
-    private static void due(String what, boolean got, boolean want) {
-        due(what, got ? 1 : 0, want ? 1 : 0);
-    }
-
-    private static void due(String what, String got, String want) {
-        if (!got.equals(want)) {
-            wrong++;
-            System.out.println("promise " + promise + ": " + what + " answered " + got + ", due is " + want);
-        }
-    }
-
-    private interface Call {
-        long on();
-    }
-
-    private static void dueNoSuchElement(String what, Call call) {
-        try {
-            due(what, call.on(), Long.MIN_VALUE);
-        } catch (NoSuchElementException e) {
-            if (e.getClass() != NoSuchElementException.class) {
-                due(what + " threw " + e.getClass(), 0, 1);
-            }
-        }
-    }
-
-    private static void typed(JoinOrders x, String text) {
-        for (int at = 0; at < text.length(); at += 8) {
-            long eight = 0;
-            for (int i = at; i < at + 8; i++) {
-                eight = eight << 8 | (i < text.length() ? text.charAt(i) : 0);
-            }
-            x.type(eight);
-        }
-    }
-
-    private static int queried(JoinOrders x, String text) {
-        typed(x, text);
-        return x.query();
-    }
-
-    private static int planned(JoinOrders x, String text) {
-        typed(x, text);
-        return x.plan();
-    }
-
-    private static String toldBy(JoinOrders x) {
-        StringBuilder told = new StringBuilder();
-        for (int i = 0; i < x.told(NONE); i++) {
-            told.append((char) x.told(i));
-        }
-        return told.toString();
-    }
-
-    private static JoinOrders of(String text) {
-        JoinOrders x = new JoinOrders();
-        if (queried(x, text) < 0) {
-            throw new IllegalStateException(text);
-        }
-        return x;
-    }
-
-    /** Sizes: {0 1} 100, {1 2} 200, {2 3} 300, {0 1 2} 1000, {1 2 3} 2000, all 10000. */
-    private static JoinOrders chain() {
-        return of("relation 10;relation 20;relation 30;relation 40;edge 0-1 by 2;edge 1-2 by 3;edge 2-3 by 4;");
-    }
-
-    /** Sizes: {0 1} 100, {1 2} 50, {2 3} 100, {0 1 2} and {1 2 3} 500, all 5000: greedy is not the best. */
-    private static JoinOrders trap() {
-        return of("relation 10;relation 10;relation 10;relation 10;edge 0-1 by 1;edge 1-2 by 2;edge 2-3 by 1;");
-    }
-
-    /** Eight relations, each joined with the next one. */
-    private static JoinOrders eight() {
-        return of("relation 2;".repeat(8) + "edge0-1by1;edge1-2by1;edge2-3by1;edge3-4by1;edge4-5by1;edge5-6by1;edge6-7by1;");
+        end();
     }
 
     // ---- the promises
 
     private static void newObject() {
-        promise = 1;
+        promise(1);
         JoinOrders x = new JoinOrders();
         due("count(0)", x.count(0), 0);
         due("count(1)", x.count(1), 0);
@@ -165,7 +72,7 @@ public final class PromiseTest {
     }
 
     private static void type() {
-        promise = 2;
+        promise(2);
         JoinOrders x = new JoinOrders();
         due("type(0)", x.type(0), 0);
         due("type of one byte", x.type(0x6100000000000000L), 1);
@@ -188,7 +95,7 @@ public final class PromiseTest {
     }
 
     private static void query() {
-        promise = 3;
+        promise(3);
         JoinOrders x = new JoinOrders();
         due("query() of nothing", x.query(), 0);
         due("query() of blanks", queried(x, " \n "), 0);
@@ -222,15 +129,8 @@ public final class PromiseTest {
         due("count(2) then", x.count(2), 0);
     }
 
-    private static void faulty(String text, int fault, int place) {
-        JoinOrders x = new JoinOrders();
-        due("query() of " + text, queried(x, text), fault == 0 ? 0 : NONE);
-        due("fault(false) of " + text, x.fault(false), fault);
-        due("fault(true) of " + text, x.fault(true), place);
-    }
-
     private static void queryFaultsOfForm() {
-        promise = 3;
+        promise(3);
         faulty("foo 1;", 1, 0);
         faulty("  foo 1;", 1, 2);
         faulty("relations 1;", 1, 0);
@@ -269,7 +169,7 @@ public final class PromiseTest {
 
     /** Of a text that is gone nothing may be read any more. */
     private static void queryBehindLongerText() {
-        promise = 3;
+        promise(3);
         JoinOrders x = new JoinOrders();
         queried(x, "relationrelation");
         due("query() of relation", queried(x, "relation"), NONE);
@@ -287,7 +187,7 @@ public final class PromiseTest {
     }
 
     private static void queryOtherFaults() {
-        promise = 3;
+        promise(3);
         faulty("relation 0;", 2, 9);
         faulty("relation 1000001;", 2, 9);
         faulty("relation 9999999;", 2, 9);
@@ -309,15 +209,8 @@ public final class PromiseTest {
         faulty("relation 5;relation 5;" + "edge0-1by2;".repeat(16) + " edge", 1, 22 + 16 * 11 + 5);
     }
 
-    private static void notPlanned(JoinOrders x, String text, int fault, int place) {
-        due("plan() of " + text, planned(x, text), NONE);
-        due("fault(false) of " + text, x.fault(false), fault);
-        due("fault(true) of " + text, x.fault(true), place);
-        due("count(10) behind " + text, x.count(10), 0);
-    }
-
     private static void plan() {
-        promise = 4;
+        promise(4);
         JoinOrders x = chain();
         due("plan()", planned(x, "((3 1)( 00 2)\n)"), 3);
         due("told", toldBy(x), "((0 2) (1 3))");
@@ -357,7 +250,7 @@ public final class PromiseTest {
     }
 
     private static void fault() {
-        promise = 5;
+        promise(5);
         JoinOrders x = new JoinOrders();
         queried(x, "relation 5;x");
         due("fault(false) of query()", x.fault(false), 1);
@@ -373,7 +266,7 @@ public final class PromiseTest {
     }
 
     private static void add() {
-        promise = 6;
+        promise(6);
         JoinOrders x = new JoinOrders();
         due("add(0)", x.add(0), NONE);
         due("add(-1)", x.add(-1), NONE);
@@ -395,7 +288,7 @@ public final class PromiseTest {
     }
 
     private static void rows() {
-        promise = 7;
+        promise(7);
         JoinOrders x = chain();
         x.choose();
         due("rows(0, 10), they are so", x.rows(0, 10), false);
@@ -414,7 +307,7 @@ public final class PromiseTest {
     }
 
     private static void link() {
-        promise = 8;
+        promise(8);
         JoinOrders x = new JoinOrders();
         due("link(1, 2, 1) without relations", x.link(1, 2, 1), NONE);
         for (int i = 0; i < 4; i++) {
@@ -442,7 +335,7 @@ public final class PromiseTest {
     }
 
     private static void cut() {
-        promise = 9;
+        promise(9);
         JoinOrders x = chain();
         x.choose();
         due("cut(-1)", x.cut(-1), NONE);
@@ -464,7 +357,7 @@ public final class PromiseTest {
     }
 
     private static void by() {
-        promise = 10;
+        promise(10);
         JoinOrders x = chain();
         x.choose();
         due("by(0, 2), it is so", x.by(0, 2), false);
@@ -482,7 +375,7 @@ public final class PromiseTest {
     }
 
     private static void limit() {
-        promise = 11;
+        promise(11);
         JoinOrders x = chain();
         x.choose();
         due("limit(1000), it is so", x.limit(1000), false);
@@ -497,7 +390,7 @@ public final class PromiseTest {
     }
 
     private static void choose() {
-        promise = 12;
+        promise(12);
         JoinOrders x = new JoinOrders();
         due("choose() without relations", x.choose(), NONE);
         due("count(9)", x.count(9), 0);
@@ -525,7 +418,7 @@ public final class PromiseTest {
     }
 
     private static void step() {
-        promise = 13;
+        promise(13);
         JoinOrders x = trap();
         due("step() without a plan", x.step(), NONE);
         planned(x, "(((0 1) 2) 3)");
@@ -555,7 +448,7 @@ public final class PromiseTest {
     }
 
     private static void undo() {
-        promise = 14;
+        promise(14);
         JoinOrders x = new JoinOrders();
         due("undo() of nothing", x.undo(), NONE);
         x.add(10);
@@ -603,7 +496,7 @@ public final class PromiseTest {
     }
 
     private static void undoLeavesTextAndFault() {
-        promise = 14;
+        promise(14);
         JoinOrders x = chain();
         planned(x, "(0 1)");
         planned(x, "(1 2)");
@@ -617,7 +510,7 @@ public final class PromiseTest {
     }
 
     private static void count() {
-        promise = 15;
+        promise(15);
         JoinOrders x = chain();
         due("count(0)", x.count(0), 4);
         due("count(1)", x.count(1), 3);
@@ -666,7 +559,7 @@ public final class PromiseTest {
     }
 
     private static void edge() {
-        promise = 16;
+        promise(16);
         JoinOrders x = of("relation 1;relation 1;relation 1;edge 2 0 - 1 by 77;");
         due("edge(0, 0)", x.edge(0, 0), 5);
         due("edge(0, 1)", x.edge(0, 1), 2);
@@ -680,7 +573,7 @@ public final class PromiseTest {
     }
 
     private static void size() {
-        promise = 17;
+        promise(17);
         JoinOrders x = chain();
         due("size(1)", x.size(1, false), 10);
         due("size(3)", x.size(3, false), 100);
@@ -718,7 +611,7 @@ public final class PromiseTest {
     }
 
     private static void connected() {
-        promise = 18;
+        promise(18);
         JoinOrders x = chain();
         due("connected(1)", x.connected(1), true);
         due("connected(3)", x.connected(3), true);
@@ -736,7 +629,7 @@ public final class PromiseTest {
     }
 
     private static void joined() {
-        promise = 19;
+        promise(19);
         JoinOrders x = of("relation 1;relation 1;relation 1;relation 1;edge 0 1 - 2 by 1;");
         due("joined(3, 4)", x.joined(3, 4), true);
         due("joined(4, 3)", x.joined(4, 3), true);
@@ -755,7 +648,7 @@ public final class PromiseTest {
     }
 
     private static void pair() {
-        promise = 20;
+        promise(20);
         JoinOrders x = chain();
         int[] first = {1, 2, 1, 3, 4, 2, 6, 1, 3, 7};
         int[] second = {2, 4, 6, 4, 8, 12, 8, 14, 12, 8};
@@ -775,7 +668,7 @@ public final class PromiseTest {
     }
 
     private static void best() {
-        promise = 21;
+        promise(21);
         JoinOrders x = chain();
         due("best(15, false, 0)", x.best(15, false, 0), 10400);
         due("best(15, false, 1)", x.best(15, false, 1), 0);
@@ -805,7 +698,7 @@ public final class PromiseTest {
     }
 
     private static void bestOfTies() {
-        promise = 21;
+        promise(21);
         JoinOrders x = of("relation 1;relation 1;relation 1;relation 1;edge 0-1 by 1;edge 1-2 by 1;edge 2-3 by 1;");
         due("best(15, false, 2)", x.best(15, false, 2), 1);
         due("best(15, true, 2)", x.best(15, true, 2), 1);
@@ -819,7 +712,7 @@ public final class PromiseTest {
     }
 
     private static void greedy() {
-        promise = 22;
+        promise(22);
         JoinOrders x = trap();
         due("greedy(0)", x.greedy(0), 5550);
         due("greedy(1)", x.greedy(1), 0);
@@ -846,7 +739,7 @@ public final class PromiseTest {
     }
 
     private static void node() {
-        promise = 23;
+        promise(23);
         JoinOrders x = chain();
         dueNoSuchElement("node(0, 0) without a plan", () -> x.node(0, 0));
         planned(x, "(3 ((2 0) 1))");
@@ -873,7 +766,7 @@ public final class PromiseTest {
     }
 
     private static void cost() {
-        promise = 24;
+        promise(24);
         JoinOrders x = chain();
         due("cost() without a plan", x.cost(), NONE);
         planned(x, "((0 1)(2 3))");
@@ -890,7 +783,7 @@ public final class PromiseTest {
     }
 
     private static void told() {
-        promise = 25;
+        promise(25);
         JoinOrders x = eight();
         due("told(NONE) without a plan", x.told(NONE), NONE);
         due("told(0) without a plan", x.told(0), NONE);
@@ -913,7 +806,7 @@ public final class PromiseTest {
     }
 
     private static void move() {
-        promise = 26;
+        promise(26);
         JoinOrders x = trap();
         due("move(NONE) without a plan", x.move(NONE), NONE);
         due("move(0) without a plan", x.move(0), NONE);
@@ -945,7 +838,7 @@ public final class PromiseTest {
     }
 
     private static void steps() {
-        promise = 27;
+        promise(27);
         JoinOrders x = trap();
         due("steps() without a plan", x.steps(), NONE);
         planned(x, "(((0 1) 2) 3)");
@@ -966,7 +859,7 @@ public final class PromiseTest {
     }
 
     private static void would() {
-        promise = 28;
+        promise(28);
         JoinOrders x = chain();
         x.choose();
         due("would(false, 0, 10), as it is", x.would(false, 0, 10), 10400);
@@ -990,7 +883,7 @@ public final class PromiseTest {
     }
 
     private static void needed() {
-        promise = 29;
+        promise(29);
         JoinOrders x = chain();
         // All is 20000 without edge 0, 30000 without edge 1; without edge 2 it is 40000, with {1 2} 200 and the cross {0 3} 400.
         due("needed(false)", x.needed(false), 2);
@@ -1007,7 +900,7 @@ public final class PromiseTest {
     }
 
     private static void image() {
-        promise = 30;
+        promise(30);
         JoinOrders x = chain();
         due("image(-1)", x.image(-1), false);
         due("image(3)", x.image(3), false);
@@ -1024,7 +917,7 @@ public final class PromiseTest {
     }
 
     private static void again() {
-        promise = 31;
+        promise(31);
         JoinOrders x = chain();
         due("again(0) of none", x.again(0), false);
         due("again(-1)", x.again(-1), false);
@@ -1077,7 +970,7 @@ public final class PromiseTest {
 
     /** No call may throw but what the document says, whatever it is given, with and without things there. */
     private static void allStrangeArguments() {
-        promise = 0;
+        promise(0);
         int[] odd = {Integer.MIN_VALUE, -257, -2, -1, 0, 1, 7, 8, 15, 16, 255, 256, 500, 5000, 1 << 30, Integer.MAX_VALUE};
         for (int start = 0; start < 3; start++) {
             for (int a : odd) {
