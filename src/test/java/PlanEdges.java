@@ -212,6 +212,12 @@ public final class PlanEdges extends Twins {
         x = of("relation 2;".repeat(4));
         due("greedy(2), two and two", x.greedy(2), 3);
         due("greedy(0)", x.greedy(0), 4 + 4 + 16);
+        x = of("relation 1000000;".repeat(8));
+        x.limit(0);
+        x.link(128, 1, 1);
+        x.choose();
+        // Two by two, as long as that is less than the cap; all greater ones are alike: 6 goes with 24, then 30 with 96.
+        due("told, of such that are capped", toldBy(x), "((0 7) (((1 2) (3 4)) (5 6)))");
     }
 
     private static void greedyCostAtTheCap() {

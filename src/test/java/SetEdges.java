@@ -104,9 +104,12 @@ public final class SetEdges extends Twins {
         due("count(5) of three that just are the cap", ofRows(1000000, 1000000, 1000).count(5), 0);
         due("count(5) of three that are more", ofRows(1000000, 1000000, 1001).count(5), 1);
         JoinOrders x = of("relation 1000000;".repeat(8));
-        x.undo();
+        due("count(5) ahead of a change", x.count(5), 219);
         x.rows(7, 1);
         due("count(5) of seven and one row", x.count(5), 2 * (128 - 1 - 7 - 21));
+        due("count(5) once more", x.count(5), 198);
+        x.undo();
+        due("count(5) of eight again", x.count(5), 219);
     }
 
     private static void countOfTheSetOfAll() {

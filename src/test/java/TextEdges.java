@@ -172,6 +172,12 @@ public final class TextEdges extends Twins {
         faulty("relations 5;", 1, 0);
         faulty("relatio 5;", 1, 0);
         faulty("arelation 5;", 1, 0);
+        faulty("selation 5;", 1, 0);
+        faulty("relatiom 5;", 1, 0);
+        faulty("timit 5;", 1, 0);
+        faulty(TWO + "fdge 0-1 by 2;", 1, 22);
+        faulty(TWO + "edge 0-1 cy 2;", 1, 31);
+        faulty(TWO + "edge 0-1 bz 2;", 1, 31);
         faulty("edg 0-1 by 2;", 1, 0);
         faulty("edges 0-1 by 2;", 1, 0);
         faulty("limi 5;", 1, 0);
@@ -281,6 +287,13 @@ public final class TextEdges extends Twins {
         due("count(2) of none", of("relation 5;").count(2), 1000);
         due("count(2) of one", of("limit 7;").count(2), 7);
         due("count(2) of two", of("limit 7;limit 9;").count(2), 9);
+        JoinOrders x = of("limit 7;");
+        due("query() of another one, with none", queried(x, "relation 5;"), 1);
+        due("count(2) of none then", x.count(2), 1000);
+        due("query() with one and a fault", queried(x, "limit 8;x"), NONE);
+        due("count(2) behind a fault", x.count(2), 1000);
+        due("query() of nothing", x.query(), 0);
+        due("count(2) of nothing", x.count(2), 1000);
         due("count(2) of three", of("limit 9;relation 1;limit 5000;limit 0;").count(2), 0);
         faulty("limit 5001;limit 9;", 2, 6);
         faulty("limit 9;limit 5001;", 2, 14);
