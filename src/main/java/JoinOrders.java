@@ -265,7 +265,7 @@ public final class JoinOrders {
     }
 
     public boolean connected(int set) {
-        return now.graph.holds(set) && pairedSets().isConnected(set);
+        return now.graph.holds(set) && pairedSets().connected[set];
     }
 
     public boolean joined(int one, int other) {
@@ -862,18 +862,14 @@ public final class JoinOrders {
                     place = text.start;
                     return;
                 }
-                absorbUnlessFaulty(text);
+                if (fault == 0) {
+                    fault = absorb(text);
+                    place = fault == 0 ? NONE : text.start;
+                }
                 pass(text.kind);
                 if (text.kind == END) {
                     return;
                 }
-            }
-        }
-
-        private void absorbUnlessFaulty(Text text) {
-            if (fault == 0) {
-                fault = absorb(text);
-                place = fault == 0 ? NONE : text.start;
             }
         }
     }
@@ -1101,6 +1097,7 @@ public final class JoinOrders {
         int pairsInAll;
         final long[] sizes;
         final boolean[] capped;
+        final boolean[] connected;
         /** One more than the set of all relations. */
         private int end;
         /** Edges as bits, of which the left, or the right set, lies in a set. */
@@ -1111,6 +1108,7 @@ public final class JoinOrders {
         Sets() {
             sizes = new long[ALL_SETS];
             capped = new boolean[ALL_SETS];
+            connected = new boolean[ALL_SETS];
             leftIn = new int[ALL_SETS];
             rightIn = new int[ALL_SETS];
             pairs = new int[ALL_SETS];
@@ -1172,9 +1170,11 @@ public final class JoinOrders {
             connectedInAll = 0;
             pairsInAll = 0;
             for (int set = 1; set < end; set++) {
+                // The parts of a set are lesser numbers, so it is known of them by now.
                 pairs[set] = countPairs(set);
                 pairsInAll += pairs[set];
-                connectedInAll += isConnected(set) ? 1 : 0;
+                connected[set] = pairs[set] > 0 || isOne(set);
+                connectedInAll += connected[set] ? 1 : 0;
             }
             paired = true;
         }
@@ -1191,11 +1191,7 @@ public final class JoinOrders {
         }
 
         private boolean isPair(int first, int second) {
-            return areJoined(first, second) && isConnected(first) && isConnected(second);
-        }
-
-        boolean isConnected(int set) {
-            return pairs[set] > 0 || isOne(set);
+            return connected[first] && connected[second] && areJoined(first, second);
         }
 
         boolean areJoined(int one, int other) {
